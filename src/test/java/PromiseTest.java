@@ -304,6 +304,11 @@ public final class PromiseTest {
         events(x, "a0100+050f0120-991");
         is("one is dropped", events(x, "a0094+010b0130+000b0130+001"), 2);
         row(x, "a gets ripe and closed", 1, 130);
+        is("one more", events(x, "c0130+000"), 1);
+        row(x, "only what these send", 0, 130);
+        x.undo();
+        events(x, "a0124+010");
+        x.undo();
         String[] bad = {"A", "g", "`", "a", "a01", "a0x", "a0100", "a0100*", "a0100 ", "a0100+", "a0100+1", "a0100+1a",
             "a0100+10", "a0100+102", "a0100+10a", "a0100+101a", "a0100+101x", "a0100+101a0100+10"};
         int[] at = {0, 0, 0, 1, 3, 2, 5, 5, 5, 6, 7, 7, 8, 8, 8, 10, 9, 17};
@@ -312,7 +317,7 @@ public final class PromiseTest {
             is("emptied by " + bad[i], x.count(10), 0);
         }
         is("nothing came", x.count(6), 5);
-        row(x, "the row stays", 1, 130);
+        row(x, "the row stays", 0, 130);
         LateSessions y = started(1, 10, 5, 0);
         for (int i = 0; i < 158; i++) {
             y.event(0, 0, 1, 0);
@@ -338,6 +343,7 @@ public final class PromiseTest {
         is("of equal ones by keys", x.message(1, 1), 0);
         is("of equal ones by keys then", x.message(2, 1), 1);
         is("closed in that order", x.finals(0, 0) * 100 + x.finals(1, 0) * 10 + x.finals(2, 0), 201);
+        is("not less than 0", x.marks(0, 0), -2);
         is("not less than t", x.marks(0, 50), -2);
         is("more than t", x.marks(0, 49), -2);
         is("far on", x.marks(0, 20000), 0);
@@ -556,6 +562,13 @@ public final class PromiseTest {
         x.marks(0, 300);
         x.kinds(0);
         row(x, "final ones stand", 1, 1, 1, 2, 1);
+        x.event(3, 290, 1, 0);
+        x.event(4, 290, 1, 0);
+        x.event(4, 290, 1, 0);
+        x.kinds(3);
+        row(x, "of d", 1, 0, 0, 0, 1);
+        x.kinds(0);
+        row(x, "others' are not a's", 1, 1, 1, 2, 1);
         is("of c", x.kinds(2), 0);
         row(x, "of c", 0, 0, 0, 0, 0);
         is("no such key", x.kinds(6), -1);
@@ -582,6 +595,10 @@ public final class PromiseTest {
         row(x, "the row stays", 80);
         x.idles(2);
         is("all idle", x.slow(), -2);
+        LateSessions y = started(2, 10, 5, 0);
+        y.marks(1, 1);
+        is("by one", y.slow(), 0);
+        row(y, "by one", 1, 0);
     }
 
     static void p20() {
@@ -606,6 +623,10 @@ public final class PromiseTest {
         is("both above", x.span(10000, 10000), -1);
         x.marks(0, 5000);
         is("closed ones too", x.span(0, 9999), 4);
+        x.event(0, 5000, 9, 0);
+        x.event(5, 5000, 9, 0);
+        is("of a and f", x.span(5000, 5000), 2);
+        row(x, "of a and f", 18, 0, 1);
     }
 
     static void p21() {
@@ -664,6 +685,7 @@ public final class PromiseTest {
 
     static void p24() {
         LateSessions x = started(1, 10, 5, 0);
+        is("0", x.ahead(0), 0);
         x.event(0, 100, 1, 0);
         x.event(1, 105, 1, 0);
         is("as it is", x.ahead(105), 0);
@@ -736,6 +758,12 @@ public final class PromiseTest {
         is("closed ones too", x.batch(0), 3);
         x.event(0, 130, 9, 0);
         is("dropped ones not", x.batch(0), 3);
+        LateSessions w = started(1, 10, 99, 0);
+        w.event(0, 100, 1, 0);
+        w.event(0, 120, 1, 0);
+        w.event(0, 170, 1, 0);
+        is("the last hole counts", w.batch(0), 3);
+        row(w, "the last hole counts", 1, 1, 50);
         is("no such key", x.batch(6), -1);
         is("no such key below", x.batch(-1), -1);
         LateSessions y = started(1, 10, 99, 0);
@@ -783,6 +811,9 @@ public final class PromiseTest {
         is("no gap above 99", x.parts(0, 2), 99);
         is("equal times", x.event(0, 700, 1, 0), 0);
         is("are no part", x.parts(0, 5), -2);
+        x.event(1, 700, 1, 0);
+        x.event(1, 702, 1, 0);
+        is("by 2", x.parts(1, 2), 1);
         is("60", x.parts(0, 60), -2);
         is("61", x.parts(0, 61), -1);
         is("0", x.parts(0, 0), -1);
@@ -872,6 +903,10 @@ public final class PromiseTest {
         row(x, "all done", 0, 0);
         is("inputs", x.count(6), 3);
         is("the mark", x.source(1, 0), 150);
+        session(x, 0, 2, 100, 100, 1, 20012, 111, 0, 0);
+        is("the event's source", x.input(0, 1), 1);
+        is("the mark's source", x.input(1, 1), 1);
+        is("the idle one", x.source(1, 2), 1);
         is("undone as one", x.undo(), 3);
         is("no inputs", x.count(6), 0);
         day(x, "ec0100+121m100150i1");
@@ -987,6 +1022,11 @@ public final class PromiseTest {
         is("below", z.years(1, -1), -1);
         is("one", z.years(1, 1), 1);
         is("40", z.years(1, 40), 40);
+        z.delays(0, 0);
+        z.years(1, 1);
+        int drawn = 1 * 1103515245 + 12345;
+        drawn = drawn * 1103515245 + 12345;
+        row(z, "of one source", 0, Math.max(0, (drawn >>> 16) % 100 - 5));
         for (int i = 0; i < 157; i++) {
             z.event(0, 10, 1, 0);
         }
