@@ -5,8 +5,9 @@ import java.util.NoSuchElementException;
 public final class LateSessions {
     public static final int NONE = -1;
 
-    private static final int NOTHING_TO_DO = -2;
-    private static final int NO_ROOM = -3;
+    /** Answers below NONE; the document says of each call what they mean. */
+    private static final int MINUS_TWO = -2;
+    private static final int MINUS_THREE = -3;
 
     private static final int MAX_SOURCES = 4;
     private static final int KEYS = 6;
@@ -166,10 +167,10 @@ public final class LateSessions {
         }
         int was = world.sources.get(source, SOURCE_DELAY);
         if (was == v) {
-            return NOTHING_TO_DO;
+            return MINUS_TWO;
         }
         if (world.inputs.size > 0) {
-            return NO_ROOM;
+            return MINUS_THREE;
         }
         remember();
         world.sources.set(source, SOURCE_DELAY, v);
@@ -196,7 +197,7 @@ public final class LateSessions {
         }
         int coming = length / EVENT_SIGNS;
         if (world.inputs.size + coming > MAX_INPUTS) {
-            return NO_ROOM;
+            return MINUS_THREE;
         }
         if (coming > 0) {
             remember();
@@ -268,7 +269,7 @@ public final class LateSessions {
         }
         int first = world.firstTouched(key, time);
         if (first < 0) {
-            return NOTHING_TO_DO;
+            return MINUS_TWO;
         }
         tellOne(world.touchedFrom(first, key, time));
         return first;
@@ -360,7 +361,7 @@ public final class LateSessions {
             }
         }
         if (slowest < 0) {
-            return NOTHING_TO_DO;
+            return MINUS_TWO;
         }
         tellTwo(most, world.ripening(world.progress + most));
         return slowest;
@@ -424,7 +425,7 @@ public final class LateSessions {
             }
         }
         if (found < 0) {
-            return NOTHING_TO_DO;
+            return MINUS_TWO;
         }
         tellOne(least + world.gap + 1 - world.progress);
         return found;
@@ -435,7 +436,7 @@ public final class LateSessions {
             return NONE;
         }
         if (p < world.progress) {
-            return NOTHING_TO_DO;
+            return MINUS_TWO;
         }
         int closing = 0;
         for (int i = 0; i < world.sessions.size; i++) {
@@ -512,7 +513,7 @@ public final class LateSessions {
         }
         int sorted = sortTaken(key);
         if (sorted == 0) {
-            return NOTHING_TO_DO;
+            return MINUS_TWO;
         }
         Arrays.fill(holes, 0);
         for (int k = 0; k + 1 < sorted; k++) {
@@ -528,7 +529,7 @@ public final class LateSessions {
                 return gap;
             }
         }
-        return NOTHING_TO_DO;
+        return MINUS_TWO;
     }
 
     public int again(int gap, int lateness, int early) {
@@ -550,7 +551,7 @@ public final class LateSessions {
             return NONE;
         }
         if (world.sources.size == 1) {
-            return NOTHING_TO_DO;
+            return MINUS_TWO;
         }
         replay(world.gap, world.lateness, world.early, source);
         tellThree(trial.droppedSize, trial.sessions.size, trial.closedSize);
@@ -706,7 +707,7 @@ public final class LateSessions {
             return NONE;
         }
         if (world.sources.get(source, SOURCE_MARK) >= t) {
-            return NOTHING_TO_DO;
+            return MINUS_TWO;
         }
         return inputRefusal();
     }
@@ -716,13 +717,13 @@ public final class LateSessions {
             return NONE;
         }
         if (world.sources.get(source, SOURCE_IDLE) != 0) {
-            return NOTHING_TO_DO;
+            return MINUS_TWO;
         }
         return inputRefusal();
     }
 
     private int inputRefusal() {
-        return world.inputs.size >= MAX_INPUTS ? NO_ROOM : 0;
+        return world.inputs.size >= MAX_INPUTS ? MINUS_THREE : 0;
     }
 
     private static boolean isOfLatest(int i, int size, int kept) {
