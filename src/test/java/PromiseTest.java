@@ -780,6 +780,8 @@ public final class PromiseTest {
         is("none", x.latest(), 0);
         row(x, "none", -1);
         x.event(0, 200, 1, 0);
+        is("on time", x.latest(), 0);
+        row(x, "on time", -1);
         x.event(0, 197, 1, 0);
         is("late", x.latest(), 3);
         row(x, "late", 1);
@@ -1023,10 +1025,12 @@ public final class PromiseTest {
         is("one", z.years(1, 1), 1);
         is("40", z.years(1, 40), 40);
         z.delays(0, 0);
-        z.years(1, 1);
-        int drawn = 1 * 1103515245 + 12345;
-        drawn = drawn * 1103515245 + 12345;
-        row(z, "of one source", 0, Math.max(0, (drawn >>> 16) % 100 - 5));
+        for (int seed = 0; seed < 50; seed++) {
+            z.years(seed, 1);
+            int drawn = seed * 1103515245 + 12345;
+            drawn = drawn * 1103515245 + 12345;
+            row(z, "of one source, 0 at least", 0, Math.max(0, (drawn >>> 16) % 100 - 5));
+        }
         for (int i = 0; i < 157; i++) {
             z.event(0, 10, 1, 0);
         }
@@ -1070,7 +1074,10 @@ public final class PromiseTest {
         no("nothing kept under 0", x.back(0));
         no("none such", x.back(2));
         no("none below", x.back(-1));
-        x.start(3, 5, 6, 7);
+        x.start(3, 5, 6, 1);
+        for (int i = 0; i < 12; i++) {
+            x.event(5, 500 + 100 * i, 9, i % 3);
+        }
         write(x, "abc");
         x.sent(0);
         yes("back", x.back(1));
