@@ -1,91 +1,7 @@
-import java.util.NoSuchElementException;
-import java.util.function.LongSupplier;
-
 /** One method a promise: ordinary inputs, the edges that the document names, wrong inputs. */
-public final class PromiseTest {
-    static int wrong = 0;
-    static String promise = "";
-
-    static void is(String what, long got, long due) {
-        if (got != due) {
-            wrong++;
-            System.out.println(promise + ": " + what + " answered " + got + ", due is " + due);
-        }
-    }
-
-    static void yes(String what, boolean got) {
-        is(what, got ? 1 : 0, 1);
-    }
-
-    static void no(String what, boolean got) {
-        is(what, got ? 1 : 0, 0);
-    }
-
-    static void none(String what, LongSupplier call) {
-        try {
-            is(what + " throws; it answered", call.getAsLong(), Long.MIN_VALUE);
-        } catch (NoSuchElementException due) {
-            return;
-        }
-    }
-
-    static void row(LateSessions x, String what, long... due) {
-        is("numbers of the row of " + what, x.count(9), due.length);
-        for (int i = 0; i < due.length && i < x.count(9); i++) {
-            is("row(" + i + ") of " + what, x.row(i), due[i]);
-        }
-    }
-
-    static void write(LateSessions x, String text) {
-        x.end(0);
-        for (int i = 0; i < text.length(); i += 4) {
-            int v = 0;
-            for (int k = i; k < i + 4; k++) {
-                v = v << 8 | (k < text.length() ? text.charAt(k) : 0);
-            }
-            x.sign(v);
-        }
-        x.end(text.length());
-    }
-
-    static int events(LateSessions x, String text) {
-        write(x, text);
-        return x.events();
-    }
-
-    static int day(LateSessions x, String text) {
-        write(x, text);
-        return x.day();
-    }
-
-    /** Delays are 0, so that an event's time is its source's mark. */
-    static LateSessions started(int n, int gap, int lateness, int early) {
-        LateSessions x = new LateSessions();
-        x.start(n, gap, lateness, early);
-        for (int source = 0; source < n; source++) {
-            x.delays(source, 0);
-        }
-        return x;
-    }
-
+public final class PromiseTest extends Check {
     static LateSessions full() {
-        LateSessions x = started(2, 10, 5, 0);
-        for (int i = 0; i < 160; i++) {
-            x.event(i % 6, i, 1, 0);
-        }
-        return x;
-    }
-
-    static void message(LateSessions x, int i, long... due) {
-        for (int what = 0; what < due.length; what++) {
-            is("message(" + i + ", " + what + ")", x.message(i, what), due[what]);
-        }
-    }
-
-    static void session(LateSessions x, int i, long... due) {
-        for (int what = 0; what < due.length; what++) {
-            is("session(" + i + ", " + what + ")", x.session(i, what), due[what]);
-        }
+        return withInputs(160);
     }
 
     static void p1() {
@@ -1138,11 +1054,6 @@ public final class PromiseTest {
         is("calls that tell none leave it", x.row(1), 100);
     }
 
-    static void run(String name, Runnable test) {
-        promise = "promise " + name;
-        test.run();
-    }
-
     public static void main(String[] args) {
         Runnable[] all = {PromiseTest::p1, PromiseTest::p2, PromiseTest::p3, PromiseTest::p4, PromiseTest::p5,
             PromiseTest::p6, PromiseTest::p7, PromiseTest::p8, PromiseTest::p9, PromiseTest::p10, PromiseTest::p11,
@@ -1153,7 +1064,8 @@ public final class PromiseTest {
             PromiseTest::p32, PromiseTest::p33, PromiseTest::p34, PromiseTest::p35, PromiseTest::p36,
             PromiseTest::p37, PromiseTest::p38};
         for (int i = 0; i < all.length; i++) {
-            run(String.valueOf(i + 1), all[i]);
+            test = "promise " + (i + 1);
+            all[i].run();
         }
         System.out.println(wrong == 0 ? "all promises hold" : wrong + " answers are not as due");
         if (wrong != 0) {
