@@ -294,6 +294,17 @@ public final class AskedEdgeTest extends Check {
         row(x, "none", 0, 0);
     }
 
+    static void p15_togetherOfAll() {
+        LateSessions x = started(1, 10, 5, 1);
+        x.event(0, 100, 3, 0);
+        x.event(1, 116, 4, 0);
+        x.event(2, 117, -9, 0);
+        x.event(2, 118, 1, 0);
+        is("a final one and two", x.stands(), 3);
+        row(x, "a final one and two", 4, -1);
+        is("a is final", x.closed(0), 1);
+    }
+
     // -- promise 16
 
     static void p16_keys0And5() {
@@ -501,6 +512,14 @@ public final class AskedEdgeTest extends Check {
         row(x, "by 3", 3, 0);
     }
 
+    static void p19_theFirstOfAll() {
+        LateSessions x = started(3, 10, 5, 0);
+        x.marks(1, 9);
+        x.marks(2, 8);
+        is("the first", x.slow(), 0);
+        row(x, "by 8", 8, 0);
+    }
+
     static void p19_thoseThatGetRipe() {
         LateSessions x = started(2, 10, 5, 0);
         x.event(0, 89, 1, 0);
@@ -639,6 +658,20 @@ public final class AskedEdgeTest extends Check {
         row(x, "with two", 0, 0, 1);
     }
 
+    static void p21_moreThanOne() {
+        LateSessions x = started(1, 10, 50, 0);
+        x.event(0, 100, 1, 0);
+        x.event(0, 120, 1, 0);
+        x.event(0, 140, 1, 0);
+        x.event(0, 110, 1, 0);
+        x.event(0, 130, 1, 0);
+        x.event(0, 150, 1, 0);
+        x.event(0, 99, 1, 0);
+        x.event(0, 98, 1, 0);
+        is("six", x.taken(), 6);
+        row(x, "two each", 2, 2, 2);
+    }
+
     // -- promise 22
 
     static void p22_allHold() {
@@ -708,6 +741,15 @@ public final class AskedEdgeTest extends Check {
         x.event(1, 99, 1, 0);
         is("b", x.next(), 1);
         row(x, "b", 110);
+    }
+
+    static void p23_theFirstOfAll() {
+        LateSessions x = started(2, 10, 5, 0);
+        x.event(0, 99, 1, 0);
+        x.event(1, 100, 1, 0);
+        x.event(2, 101, 1, 0);
+        is("a", x.next(), 0);
+        row(x, "a", 110);
     }
 
     static void p23_lastAt0() {
@@ -803,6 +845,26 @@ public final class AskedEdgeTest extends Check {
         is("no -3", x.would(0, 9999, 1, 0), 0);
         row(x, "one by itself", 0, 0);
         is("160", x.count(6), 160);
+    }
+
+    static LateSessions with160Sessions() {
+        LateSessions x = started(2, 1, 5, 1);
+        for (int i = 0; i < 160; i++) {
+            x.event(0, 2 * i, 1, 0);
+        }
+        return x;
+    }
+
+    static void p25_with160Sessions() {
+        LateSessions x = with160Sessions();
+        is("160", x.count(5), 160);
+        is("one by itself", x.would(5, 0, 1, 0), 0);
+        row(x, "it would be told", 0, 1);
+        is("with the first and the second", x.would(0, 1, 1, 0), 0);
+        row(x, "two taken back, one told", 2, 3);
+        is("with the last", x.would(0, 319, 1, 0), 0);
+        row(x, "one taken back, one told", 1, 2);
+        is("160 still", x.count(5), 160);
     }
 
     static void p25_meltsWithNoneOneTwo() {

@@ -192,12 +192,18 @@ public final class ComesEdgeTest extends Check {
     }
 
     static void p04_allAnew() {
-        LateSessions x = started(2, 10, 5, 1);
+        LateSessions x = started(2, 10, 50, 1);
         x.event(0, 100, 7, 0);
         x.event(0, 200, 7, 1);
         x.marks(0, 300);
-        x.event(1, 150, 7, 1);
+        x.event(1, 149, 7, 1);
+        x.event(2, 220, 7, 1);
+        x.event(2, 240, 7, 1);
+        x.event(2, 230, 7, 1);
+        x.event(2, 239, 7, 1);
         x.idles(0);
+        x.taken();
+        row(x, "late, dropped, melted", 2, 1, 1);
         x.start(2, 10, 5, 1);
         counts(x, 0, 2, 10, 5, 1, 0, 0, 0, 0);
         source(x, 0, 0, 20, 0, 0, 0, 0);
@@ -501,6 +507,14 @@ public final class ComesEdgeTest extends Check {
         row(x, "three early ones, two taken back, one on time", 6, 116);
         message(x, 1, 3, 0, 100, 100, 1, 20001);
         message(x, 5, 1, 0, 100, 105, 2, 20002);
+    }
+
+    static void p07_onlyWhatTheseSend() {
+        LateSessions x = started(1, 10, 5, 1);
+        x.event(0, 100, 1, 0);
+        is("one was sent", x.count(7), 1);
+        events(x, "b0100+000");
+        row(x, "one more", 1, 100);
     }
 
     // -- promise 8

@@ -174,6 +174,18 @@ public final class KeptEdgeTest extends Check {
         row(x, "only of these", 0, 1);
     }
 
+    static void p32_whatTheSignsMean() {
+        LateSessions x = started(4, 10, 5, 0);
+        is("three", day(x, "ec1234-563m205678i1"), 3);
+        input(x, 0, 0, 3, 1234, 2);
+        input(x, 1, 1, 2, 5678, -1);
+        input(x, 2, 2, 1, 0, -1);
+        session(x, 0, 2, 1234, 1234, 1, 19944, 43);
+        source(x, 2, 5678, 0, 0, 0, 0);
+        source(x, 3, 1234, 0, 0, 1, 0);
+        source(x, 1, 0, 0, 1, 0, 0);
+    }
+
     static void p32_40ActsFillTheText() {
         LateSessions x = started(1, 10, 5, 0);
         is("eight events", day(x, "ea0000+000".repeat(8)), 8);
@@ -406,6 +418,42 @@ public final class KeptEdgeTest extends Check {
         is("no more", x.event(0, 500, 1, 0), -3);
     }
 
+    static void p33_messagesFinalsMelted() {
+        LateSessions x = started(1, 10, 50, 1);
+        x.event(3, 100, 7, 0);
+        x.event(3, 120, 8, 0);
+        x.event(3, 110, 9, 0);
+        x.marks(0, 200);
+        x.start(1, 10, 50, 1);
+        x.delays(0, 0);
+        day(x, "ea0200+010ea0220+010ea0240+010ea0210+010ea0230+010m000400");
+        is("three undone", x.undo() + x.undo() + x.undo(), 5 + 4 + 3);
+        message(x, 0, 0, 3, 100, 100, 1, 20007);
+        message(x, 2, 3, 3, 100, 100, 1, 20007);
+        message(x, 3, 1, 3, 100, 100, 1, 20007);
+        finals(x, 0, 3, 100, 120, 3, 20024, 108, 1);
+        input(x, 0, 0, 0, 100, 3);
+        x.taken();
+        row(x, "one late, one melted", 1, 0, 1);
+    }
+
+    /** The latest 60 messages and the latest 40 that were closed are those of that time. */
+    static void p33_theLatest60And40() {
+        LateSessions x = started(1, 10, 0, 0);
+        for (int i = 0; i < 61; i++) {
+            x.event(i % 6, 20 * i, 1, 0);
+        }
+        is("60 are sent", x.count(7), 60);
+        x.event(5, 1220, 1, 0);
+        none("message 0", () -> x.message(0, 0));
+        none("final 20", () -> x.finals(20, 0));
+        x.undo();
+        message(x, 0, 1, 0, 0, 0, 1, 20001);
+        finals(x, 20, 2, 400, 400, 1, 20001, 100, 1);
+        none("message 60", () -> x.message(60, 0));
+        none("final 60", () -> x.finals(60, 0));
+    }
+
     // -- promise 34
 
     /** What the draws of a seed do, by event() itself. */
@@ -509,6 +557,19 @@ public final class KeptEdgeTest extends Check {
         for (int seed = 0; seed < 30; seed++) {
             drawn(started(1, 99, 99, 1), started(1, 99, 99, 1), seed, 40, 40);
         }
+    }
+
+    static LateSessions afterMessages() {
+        LateSessions x = started(2, 10, 5, 1);
+        x.event(0, 100, 1, 0);
+        x.event(0, 104, 1, 0);
+        x.event(0, 100, 1, 1);
+        return x;
+    }
+
+    static void p34_onlyWhatTheseSend() {
+        is("five were sent", afterMessages().count(7), 5);
+        drawn(afterMessages(), afterMessages(), 11, 20, 20);
     }
 
     static void p34_theyAreForgotten() {
@@ -642,6 +703,27 @@ public final class KeptEdgeTest extends Check {
             yes("back", x.back(1));
             is("one input", x.count(6), 1);
         }
+    }
+
+    /** The latest 60 messages and the latest 40 that were closed are those of that time. */
+    static void p36_theLatest60And40() {
+        LateSessions x = started(1, 10, 0, 0);
+        for (int i = 0; i < 61; i++) {
+            x.event(i % 6, 20 * i, 1, 0);
+        }
+        x.keep(0);
+        for (int i = 61; i < 90; i++) {
+            x.event(5 - i % 6, 20 * i, 2, 0);
+        }
+        yes("back", x.back(0));
+        is("60 were sent", x.count(7), 60);
+        message(x, 0, 1, 0, 0, 0, 1, 20001);
+        message(x, 25, 1, 1, 500, 500, 1, 20001);
+        finals(x, 20, 2, 400, 400, 1, 20001, 100, 1);
+        finals(x, 59, 5, 1180, 1180, 1, 20001, 100, 1);
+        none("message 60", () -> x.message(60, 0));
+        none("final 60", () -> x.finals(60, 0));
+        none("final 19", () -> x.finals(19, 0));
     }
 
     // -- promise 37

@@ -165,6 +165,16 @@ public final class PlayedEdgeTest extends Check {
         is("one by 39", x.again(10, 39, 0), 1);
     }
 
+    static void p27_undoneOnesAreNone() {
+        LateSessions x = started(1, 10, 5, 0);
+        x.marks(0, 100);
+        x.event(0, 50, 1, 0);
+        is("50", x.latest(), 50);
+        x.undo();
+        is("0", x.latest(), 0);
+        row(x, "none", -1);
+    }
+
     // -- promise 28
 
     static void p28_parts1And60() {
@@ -246,6 +256,26 @@ public final class PlayedEdgeTest extends Check {
         for (int v : FAR) {
             is("far out", x.parts(v, 1), -1);
         }
+    }
+
+    static void p28_askedAgain() {
+        LateSessions x = started(2, 10, 5, 0);
+        x.event(0, 100, 1, 0);
+        x.event(0, 200, 1, 0);
+        for (int i = 0; i < 3; i++) {
+            is("three of two", x.parts(0, 3), -2);
+            is("two of two", x.parts(0, 2), 99);
+        }
+    }
+
+    static void p28_ofOneKeyThenOfAnother() {
+        LateSessions x = started(2, 10, 5, 0);
+        x.event(0, 0, 1, 0);
+        x.event(0, 200, 1, 0);
+        x.event(0, 400, 1, 0);
+        x.event(1, 100, 1, 0);
+        is("three", x.parts(0, 3), 99);
+        is("two of one", x.parts(1, 2), -2);
     }
 
     static void p28_tellsNoRow() {
@@ -339,6 +369,26 @@ public final class PlayedEdgeTest extends Check {
         x.event(0, 69, 1, 0);
         is("by 70", x.again(10, 0, 0), 1);
         is("by 1", x.again(10, 1, 0), 0);
+    }
+
+    static void p29_idleOnesToo() {
+        LateSessions x = started(2, 10, 5, 0);
+        x.event(0, 100, 1, 0);
+        x.marks(0, 116);
+        x.idles(1);
+        x.event(0, 105, 1, 0);
+        is("dropped", x.again(10, 5, 0), 1);
+        row(x, "closed", 0, 1, 0, 0, 0, 1);
+    }
+
+    static void p29_marksToo() {
+        LateSessions x = started(1, 10, 5, 0);
+        x.event(0, 100, 1, 0);
+        x.marks(0, 111);
+        is("none", x.again(11, 5, 0), 0);
+        row(x, "not ripe", 0, 0, 0, 0, 1, 0);
+        is("none", x.again(10, 5, 0), 0);
+        row(x, "ripe", 0, 1, 0, 0, 1, 0);
     }
 
     static void p29_160() {

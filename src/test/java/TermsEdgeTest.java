@@ -499,6 +499,22 @@ public final class TermsEdgeTest extends Check {
         is("nothing is taken back", x.sent(3), 0);
     }
 
+    /** By keys the last one is closed first, with as many sessions as there can be. */
+    static void closed_160ByOneRise() {
+        LateSessions x = started(2, 1, 0, 0);
+        for (int i = 0; i < 159; i++) {
+            x.event(5 - i / 32, 3 * i, 1, 0);
+        }
+        is("159 sessions", x.count(5), 159);
+        is("the 160th", x.event(0, 9999, 1, 1), 0);
+        row(x, "those that are below 473", 158, 474);
+        is("two are left", x.count(5), 2);
+        session(x, 0, 0, 9999, 9999, 1, 20001, 100, 0, 0);
+        session(x, 1, 1, 474, 474, 1, 20001, 100, 0, 0);
+        finals(x, 118, 2, 354, 354, 1, 20001, 100, 1);
+        finals(x, 157, 1, 471, 471, 1, 20001, 100, 1);
+    }
+
     // -- messages, inputs
 
     static void messages_takenBackTellWhatWasTold() {
